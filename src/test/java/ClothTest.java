@@ -202,6 +202,14 @@ final class ClothTest {
         LoomDraft open = staircase(8);
         open.tie(7, 255);
         Check.same("19 the way is open", open.layers(), 16);
+        LoomDraft changed = Check.plain(2, 2);
+        Check.same("19 before a change", changed.layers(), 1);
+        changed.tie(0, 3);
+        changed.tie(1, 3);
+        Check.same("19 all ends on top after a change", changed.layers(), 4);
+        changed.tie(0, 0);
+        changed.tie(1, 0);
+        Check.same("19 all picks on top after a change", changed.layers(), 4);
     }
 
     /** Above plain weave of the shafts 0 and 1 lies plain weave of the shafts 2 and 3. */
