@@ -1,125 +1,99 @@
+import java.lang.reflect.InvocationTargetException;
+import java.lang.reflect.Method;
+import java.lang.reflect.Modifier;
+import java.util.ArrayList;
+import java.util.Comparator;
 import java.util.List;
+import java.util.function.Function;
 import java.util.function.Supplier;
 
 /** What the tests share: they say what is due, print what is not, and end with exit code 1 if anything was not. */
 final class Check {
+    static final Class<?> ARGUMENT = IllegalArgumentException.class;
+    static final Class<?> STATE = IllegalStateException.class;
+    static final Class<?> INDEX = IndexOutOfBoundsException.class;
+    static final boolean[] BOTH = {true, false};
+
+    private static String running = "";
+    private static int tests = 0;
     private static int wrong = 0;
     private static int looked = 0;
 
     private Check() {
     }
 
+    /** Runs the tests of a class: its methods that are named after a promise or after the terms. */
+    static void runAll(Class<?> type) {
+        List<Method> found = new ArrayList<>();
+        for (Method method : type.getDeclaredMethods()) {
+            if (isTest(method)) {
+                found.add(method);
+            }
+        }
+        found.sort(Comparator.comparing(Method::getName));
+        for (Method method : found) {
+            run(method);
+        }
+        finish(type);
+    }
+
+    private static boolean isTest(Method method) {
+        return method.getName().matches("(promise\\d\\d|terms|use)[A-Z].*")
+            && Modifier.isStatic(method.getModifiers()) && method.getParameterCount() == 0;
+    }
+
+    private static void run(Method method) {
+        tests++;
+        running = method.getName() + ": ";
+        try {
+            method.setAccessible(true);
+            method.invoke(null);
+        } catch (InvocationTargetException e) {
+            wrong++;
+            System.out.println(running + "stopped by " + e.getCause());
+        } catch (IllegalAccessException e) {
+            wrong++;
+            System.out.println(running + "could not be run");
+        }
+        running = "";
+    }
+
     static void same(String what, Object got, Object due) {
         looked++;
         if (!got.equals(due)) {
             wrong++;
-            System.out.println(what + " answered " + got + ", due is " + due);
+            System.out.println(running + what + " answered " + got + ", due is " + due);
         }
     }
 
-    /** The call throws just this, and changes nothing. */
-    static void refused(String what, LoomDraft draft, Class<?> due, Supplier<?> call) {
-        List<Object> before = stateOf(draft);
-        Object got;
+    /** What a call answers: what it returns, or the class of what it throws. */
+    static Object answer(Supplier<?> call) {
         try {
-            got = call.get();
+            return call.get();
         } catch (RuntimeException e) {
-            got = e.getClass();
+            return e.getClass();
         }
-        same(what, got, due);
-        same(what + ", what it left", stateOf(draft), before);
     }
 
-    /** All that the calls tell of a draft without changing it. */
-    static List<Object> stateOf(LoomDraft draft) {
-        return List.of(draft.digest(), draft.count(true), draft.count(false), draft.differences(), draft.layers(),
-            draft.warpShare(), draft.period(true), draft.period(false));
+    /** The call throws just this, and leaves its draft such that it answers all as an untouched one made alike. */
+    static void refused(String call, Supplier<LoomDraft> made, Class<?> due, Function<LoomDraft, ?> asked) {
+        LoomDraft draft = made.get();
+        same(call, answer(() -> asked.apply(draft)), due);
+        same(call + ", what it left", Drafts.allThatIsTold(draft), Drafts.allThatIsTold(made.get()));
     }
 
-    static void finish(Class<?> test) {
-        System.out.println(test.getSimpleName() + ": " + looked + " answers looked at, " + wrong + " not as due");
-        if (wrong != 0) {
+    /** The call is refused on each kind of draft: a new one, one with something of all, and a full one. */
+    static void refusedEverywhere(String call, Class<?> due, Function<LoomDraft, ?> asked) {
+        refused(call + " of a new one", LoomDraft::new, due, asked);
+        refused(call + " of a filled one", Drafts::filled, due, asked);
+        refused(call + " of a full one", Drafts::full, due, asked);
+    }
+
+    static void finish(Class<?> type) {
+        System.out.println(type.getSimpleName() + ": " + (tests == 0 ? "" : tests + " tests, ") + looked
+            + " answers looked at, " + wrong + " not as due");
+        if (wrong != 0 || looked == 0) {
             System.exit(1);
-        }
-    }
-
-    // ---- drafts that several tests begin with
-
-    /** Ends with these shafts, all of colour 0. */
-    static void threadAll(LoomDraft draft, int... shafts) {
-        for (int shaft : shafts) {
-            draft.thread(shaft, 0);
-        }
-    }
-
-    /** Picks with these sets of treadles, all of colour 1. */
-    static void treadAll(LoomDraft draft, int... treadles) {
-        for (int set : treadles) {
-            draft.tread(set, 1);
-        }
-    }
-
-    /** Plain weave: shafts 0 and 1 in turn, each on a treadle of its own. */
-    static LoomDraft plain(int ends, int picks) {
-        LoomDraft draft = new LoomDraft();
-        draft.tie(0, 1);
-        draft.tie(1, 2);
-        for (int end = 0; end < ends; end++) {
-            draft.thread(end % 2, 0);
-        }
-        for (int pick = 0; pick < picks; pick++) {
-            draft.tread(1 << pick % 2, 1);
-        }
-        return draft;
-    }
-
-    /** A draft whose ends or picks have the colours 0 to 7 in turn, so that each of eight can be told. */
-    static LoomDraft coloured(int ends, int picks) {
-        LoomDraft draft = new LoomDraft();
-        for (int end = 0; end < ends; end++) {
-            draft.thread(7 - end % 8, end % 8);
-        }
-        for (int pick = 0; pick < picks; pick++) {
-            draft.tread(1023 - pick, pick % 8);
-        }
-        return draft;
-    }
-
-    /** The colours of the ends or the picks, as the digits of a text. */
-    static String colours(LoomDraft draft, boolean isWarp) {
-        StringBuilder text = new StringBuilder();
-        for (int place = 0; place < draft.count(isWarp); place++) {
-            text.append(isWarp ? draft.end(place, 1) : draft.pick(place, 1));
-        }
-        return text.toString();
-    }
-
-    /** The shafts of the ends or the treadles of the picks. */
-    static String bindings(LoomDraft draft, boolean isWarp) {
-        StringBuilder text = new StringBuilder();
-        for (int place = 0; place < draft.count(isWarp); place++) {
-            text.append(place == 0 ? "" : " ").append(isWarp ? draft.end(place, 0) : draft.pick(place, 0));
-        }
-        return text.toString();
-    }
-
-    /** A drawing with so many columns and these rows. */
-    static LoomDraft drawn(int columns, long... rows) {
-        LoomDraft draft = new LoomDraft();
-        drawOn(draft, columns, rows);
-        return draft;
-    }
-
-    static LoomDraft drawnAndFitted(int columns, long... rows) {
-        LoomDraft draft = drawn(columns, rows);
-        draft.fit();
-        return draft;
-    }
-
-    static void drawOn(LoomDraft draft, int columns, long... rows) {
-        draft.draw(columns);
-        for (long cells : rows) {
-            draft.row(cells);
         }
     }
 }

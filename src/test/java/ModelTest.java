@@ -1,5 +1,7 @@
 import java.util.ArrayList;
+import java.util.Collections;
 import java.util.List;
+import java.util.function.Supplier;
 
 /**
  * Long runs of calls beside a model that is written from the document in another way: lists of threads,
@@ -8,6 +10,7 @@ import java.util.List;
 final class ModelTest {
     private static final int RUNS = 300;
     private static final int CALLS = 512;
+    private static final int MOST_CALLS_OF_A_STEP = 45;
 
     private ModelTest() {
     }
@@ -25,6 +28,7 @@ final class ModelTest {
     private static final class Run {
         private final int number;
         private long state;
+        private int calls = 0;
         private final LoomDraft draft = new LoomDraft();
         private List<Yarn> ends = new ArrayList<>();
         private List<Yarn> picks = new ArrayList<>();
@@ -52,29 +56,22 @@ final class ModelTest {
             return below(2) == 0;
         }
 
+        /** An object is used for just as many calls as the document promises answers for. */
         private void go() {
-            for (int call = 0; call < CALLS / 3; call++) {
+            while (calls + MOST_CALLS_OF_A_STEP <= CALLS) {
                 change();
                 ask();
-                Check.same("run " + number + ", digest after call " + call, draft.digest(), digest());
+                due("digest", draft::digest, digest());
+            }
+            while (calls < CALLS) {
+                ask();
             }
         }
 
-        private Object answer(java.util.function.Supplier<?> call) {
-            try {
-                return call.get();
-            } catch (RuntimeException e) {
-                return e.getClass();
-            }
+        private void due(String what, Supplier<?> call, Object due) {
+            calls++;
+            Check.same("run " + number + ", call " + calls + ", " + what, Check.answer(call), due);
         }
-
-        private void due(String what, java.util.function.Supplier<?> call, Object due) {
-            Check.same("run " + number + ", " + what, answer(call), due);
-        }
-
-        private static final Object ARGUMENT = IllegalArgumentException.class;
-        private static final Object STATE = IllegalStateException.class;
-        private static final Object INDEX = IndexOutOfBoundsException.class;
 
         private void change() {
             boolean isWarp = either();
@@ -123,7 +120,7 @@ final class ModelTest {
 
         private void thread(int shaft, int colour) {
             boolean isBad = shaft < 0 || shaft > 7 || colour < 0 || colour > 7;
-            Object due = isBad ? ARGUMENT : ends.size() == 40 ? STATE : (Object) ends.size();
+            Object due = isBad ? Check.ARGUMENT : ends.size() == 40 ? Check.STATE : (Object) ends.size();
             due("thread", () -> draft.thread(shaft, colour), due);
             if (due instanceof Integer) {
                 ends.add(new Yarn(shaft, colour));
@@ -132,7 +129,7 @@ final class ModelTest {
 
         private void tread(int treadles, int colour) {
             boolean isBad = treadles < 0 || treadles > 1023 || colour < 0 || colour > 7;
-            Object due = isBad ? ARGUMENT : picks.size() == 40 ? STATE : (Object) picks.size();
+            Object due = isBad ? Check.ARGUMENT : picks.size() == 40 ? Check.STATE : (Object) picks.size();
             due("tread", () -> draft.tread(treadles, colour), due);
             if (due instanceof Integer) {
                 picks.add(new Yarn(treadles, colour));
@@ -140,7 +137,7 @@ final class ModelTest {
         }
 
         private void tie(int treadle, int shafts) {
-            Object due = treadle < 0 || treadle > 9 ? INDEX : shafts < 0 || shafts > 255 ? ARGUMENT
+            Object due = treadle < 0 || treadle > 9 ? Check.INDEX : shafts < 0 || shafts > 255 ? Check.ARGUMENT
                 : (Object) ties[treadle];
             due("tie", () -> draft.tie(treadle, shafts), due);
             if (due instanceof Integer) {
@@ -155,21 +152,21 @@ final class ModelTest {
 
         private void reverse(boolean isWarp) {
             due("reverse", () -> draft.reverse(isWarp), threads(isWarp).size());
-            java.util.Collections.reverse(threads(isWarp));
+            Collections.reverse(threads(isWarp));
         }
 
         private void rotate(boolean isWarp, int places) {
             boolean isBad = places < 0 || places > 40;
-            due("rotate", () -> draft.rotate(isWarp, places), isBad ? ARGUMENT : threads(isWarp).size());
+            due("rotate", () -> draft.rotate(isWarp, places), isBad ? Check.ARGUMENT : threads(isWarp).size());
             if (!isBad) {
-                java.util.Collections.rotate(threads(isWarp), places);
+                Collections.rotate(threads(isWarp), places);
             }
         }
 
         private void repeat(boolean isWarp) {
             List<Yarn> threads = threads(isWarp);
             boolean isBad = threads.size() > 20;
-            due("repeat", () -> draft.repeat(isWarp), isBad ? STATE : 2 * threads.size());
+            due("repeat", () -> draft.repeat(isWarp), isBad ? Check.STATE : 2 * threads.size());
             if (!isBad) {
                 threads.addAll(List.copyOf(threads));
             }
@@ -178,7 +175,7 @@ final class ModelTest {
         private void cut(boolean isWarp, int left) {
             List<Yarn> threads = threads(isWarp);
             boolean isBad = left < 0 || left > threads.size();
-            due("cut", () -> draft.cut(isWarp, left), isBad ? ARGUMENT : threads.size() - left);
+            due("cut", () -> draft.cut(isWarp, left), isBad ? Check.ARGUMENT : threads.size() - left);
             if (!isBad) {
                 threads.subList(left, threads.size()).clear();
             }
@@ -186,7 +183,7 @@ final class ModelTest {
 
         private void draw(int wanted) {
             boolean isBad = wanted < 1 || wanted > 40;
-            due("draw", () -> draft.draw(wanted), isBad ? ARGUMENT : rows.size());
+            due("draw", () -> draft.draw(wanted), isBad ? Check.ARGUMENT : rows.size());
             if (!isBad) {
                 columns = wanted;
                 rows.clear();
@@ -206,8 +203,8 @@ final class ModelTest {
         }
 
         private void row(long cells) {
-            Object due = columns == 0 || rows.size() == 40 ? STATE
-                : cells < 0 || cells >= 1L << columns ? ARGUMENT : (Object) (rows.size() + 1);
+            Object due = columns == 0 || rows.size() == 40 ? Check.STATE
+                : cells < 0 || cells >= 1L << columns ? Check.ARGUMENT : (Object) (rows.size() + 1);
             due("row", () -> draft.row(cells), due);
             if (due instanceof Integer) {
                 rows.add(cells);
@@ -240,7 +237,7 @@ final class ModelTest {
                 fittedPicks.add(new Yarn(1 << treadles.indexOf(cells), 1));
             }
             boolean isBad = rows.isEmpty() || shafts.size() > 8 || treadles.size() > 10;
-            due("fit", draft::fit, isBad ? STATE : shafts.size());
+            due("fit", draft::fit, isBad ? Check.STATE : shafts.size());
             if (isBad) {
                 return;
             }
@@ -255,7 +252,7 @@ final class ModelTest {
                 }
                 ties[treadle] = tied;
             }
-            Check.same("run " + number + ", differences after fit", draft.differences(), 0);
+            due("differences after fit", draft::differences, 0);
         }
 
         /** Where the answer for this row begins in a column's text. */
@@ -301,7 +298,7 @@ final class ModelTest {
         }
 
         private void askThread(boolean isWarp, int place, int what) {
-            Object due = INDEX;
+            Object due = Check.INDEX;
             if (place >= 0 && place < threads(isWarp).size() && what >= 0 && what < (isWarp ? 2 : 3)) {
                 Yarn yarn = threads(isWarp).get(place);
                 due = what == 0 ? yarn.binding() : what == 1 ? yarn.colour() : moved(place);
@@ -311,8 +308,8 @@ final class ModelTest {
 
         private void askCrossing(int pick, int end) {
             boolean isThere = pick >= 0 && pick < picks.size() && end >= 0 && end < ends.size();
-            Object top = isThere ? isUp(pick, end) : INDEX;
-            Object colour = !isThere ? INDEX : isUp(pick, end) ? ends.get(end).colour() : picks.get(pick).colour();
+            Object top = isThere ? isUp(pick, end) : Check.INDEX;
+            Object colour = !isThere ? Check.INDEX : isUp(pick, end) ? ends.get(end).colour() : picks.get(pick).colour();
             due("isWarpOnTop", () -> draft.isWarpOnTop(pick, end), top);
             due("colour", () -> draft.colour(pick, end), colour);
         }
@@ -349,7 +346,7 @@ final class ModelTest {
             for (int length : floatLengths(isWarp, true)) {
                 found += length >= least ? 1 : 0;
             }
-            due("floats", () -> draft.floats(isWarp, least), least < 1 || least > 40 ? ARGUMENT : found);
+            due("floats", () -> draft.floats(isWarp, least), least < 1 || least > 40 ? Check.ARGUMENT : found);
         }
 
         private double warpShare() {
@@ -417,11 +414,11 @@ final class ModelTest {
         private void askColourAt(int index) {
             List<Integer> different = colours().stream().distinct().toList();
             boolean isThere = index >= 0 && index < different.size();
-            due("colourAt", () -> draft.colourAt(index), isThere ? different.get(index) : INDEX);
+            due("colourAt", () -> draft.colourAt(index), isThere ? different.get(index) : Check.INDEX);
         }
 
         private void askThreadsOf(int colour) {
-            Object due = colour < 0 || colour > 7 ? INDEX : java.util.Collections.frequency(colours(), colour);
+            Object due = colour < 0 || colour > 7 ? Check.INDEX : Collections.frequency(colours(), colour);
             due("threadsOf", () -> draft.threadsOf(colour), due);
         }
 
