@@ -22,7 +22,7 @@ final class Check {
     private Check() {
     }
 
-    /** Runs the tests of a class: its methods that are named after a promise or after the terms. */
+    /** Runs the tests of a class: its void methods without parameters, each named after what it holds to. */
     static void runAll(Class<?> type) {
         List<Method> found = new ArrayList<>();
         for (Method method : type.getDeclaredMethods()) {
@@ -38,12 +38,13 @@ final class Check {
     }
 
     private static boolean isTest(Method method) {
-        return method.getName().matches("(promise\\d\\d|terms|use)[A-Z].*")
-            && Modifier.isStatic(method.getModifiers()) && method.getParameterCount() == 0;
+        return Modifier.isStatic(method.getModifiers()) && method.getParameterCount() == 0
+            && method.getReturnType() == void.class && !method.isSynthetic();
     }
 
     private static void run(Method method) {
         tests++;
+        same("the name " + method.getName(), method.getName().matches("(promise\\d\\d|terms|use)[A-Z].*"), true);
         running = method.getName() + ": ";
         try {
             method.setAccessible(true);

@@ -14,7 +14,7 @@ final class ClothTest {
         Check.runAll(ClothTest.class);
     }
 
-    /** Ends on the shafts 0, 1, 2, 7, 0 and picks with the treadles {0}, {1, 9}, none, {0, 1}: 10011, 01100, 00000, 11011. */
+    /** The picks are 10011, 01100, 00000 and 11011, with 1 for an end on top. */
     private static LoomDraft mixed() {
         LoomDraft draft = new LoomDraft();
         draft.tie(0, 0b10000001);
@@ -332,8 +332,24 @@ final class ClothTest {
         Check.same("mixed", mixed().warpShare(), 9.0 / 20);
         Check.same("mixed, sinking", sinking(mixed()).warpShare(), 11.0 / 20);
         Check.same("plain, 3 by 3", Drafts.plain(3, 3).warpShare(), 5.0 / 9);
-        Check.same("1 by 3", Drafts.woven("1", "0", "0").warpShare(), 1.0 / 3);
+        Check.same("one end, the first pick", Drafts.woven("1", "0", "0").warpShare(), 1.0 / 3);
+        Check.same("one end, the last pick", Drafts.woven("0", "0", "1").warpShare(), 1.0 / 3);
+        Check.same("one pick, the first end", Drafts.woven("100").warpShare(), 1.0 / 3);
+        Check.same("one pick, the last end", Drafts.woven("001").warpShare(), 1.0 / 3);
         Check.same("plain, 40 by 40", Drafts.plain(40, 40).warpShare(), 0.5);
+    }
+
+    private static void promise17ItIsToldAnewAfterAChange() {
+        LoomDraft draft = Drafts.allEndsOnTop(5, 5);
+        Check.same("all", draft.warpShare(), 1.0);
+        draft.cut(false, 2);
+        Check.same("3 picks less", draft.warpShare(), 1.0);
+        draft.cut(true, 1);
+        Check.same("4 ends less", draft.warpShare(), 1.0);
+        draft.tie(1, 0);
+        Check.same("a treadle tied to no shafts", draft.warpShare(), 0.5);
+        draft.cut(true, 0);
+        Check.same("no ends", draft.warpShare(), 0.0);
     }
 
     // ---- Promise 18: period
@@ -473,6 +489,12 @@ final class ClothTest {
         Check.same("a pick below plain weave", Drafts.woven("10", "01", "11").layers(), 2);
         Check.same("a pick above plain weave", Drafts.woven("10", "01", "00").layers(), 2);
         Check.same("from each to the next", Drafts.woven("11", "01").layers(), 4);
+    }
+
+    private static void promise19AWayThatTheLastThreadsMakeIsFound() {
+        Check.same("2 ends, 3 picks", Drafts.woven("01", "11", "10").layers(), 2);
+        Check.same("3 ends, 2 picks", Drafts.woven("011", "010").layers(), 5);
+        Check.same("3 ends, 2 picks, the last end", Drafts.woven("011", "110").layers(), 2);
     }
 
     private static void promise19TwoClothsOnEachOtherAreTwoLayers() {

@@ -1,4 +1,5 @@
 import java.math.BigInteger;
+import java.util.Arrays;
 import java.util.Collections;
 import java.util.List;
 import java.util.function.Supplier;
@@ -357,7 +358,21 @@ final class DrawingTest {
     private static void promise26PlacesThatAreOtherAreCounted() {
         Check.same("the end on top", drawnOver(Drafts.plain(1, 1), 1, 0).differences(), 1);
         Check.same("both ways", drawnOver(Drafts.plain(4, 3), 4, 0b1101, 0b1010, 0b0000).differences(), 3);
-        Check.same("the first and last place", drawnOver(Drafts.plain(4, 3), 4, 0b0100, 0b1010, 0b1101).differences(), 2);
+        LoomDraft corners = drawnOver(Drafts.plain(4, 3), 4, 0b0100, 0b1010, 0b1101);
+        Check.same("the first and last place", corners.differences(), 2);
+    }
+
+    private static void promise26TheLastPlacesOfLongAndBroadDrawingsAreCounted() {
+        Check.same("1 column, the last of 3 rows", drawnOver(Drafts.plain(1, 3), 1, 1, 0, 0).differences(), 1);
+        Check.same("1 row, the last of 3 columns", drawnOver(Drafts.plain(3, 1), 3, 0b001).differences(), 1);
+        Check.same("the last of all", drawnOver(Drafts.allPicksOnTop(40, 1), 40, 1L << 39).differences(), 1);
+    }
+
+    private static void promise26RowsOfTheDrawingBeforeAreNotCounted() {
+        LoomDraft draft = drawnOver(Drafts.allPicksOnTop(5, 4), 5, 31, 31, 31, 31);
+        Check.same("4 rows", draft.differences(), 20);
+        draft.cut(false, 2);
+        Check.same("2 rows", drawnOver(draft, 5, 0, 0).differences(), 0);
     }
 
     private static void promise26OnASinkingLoomTheOthersAreCounted() {
@@ -369,7 +384,7 @@ final class DrawingTest {
     private static void promise26OfAFullClothItIs0To1600() {
         long[] none = new long[40];
         long[] all = new long[40];
-        java.util.Arrays.fill(all, ALL);
+        Arrays.fill(all, ALL);
         Check.same("none and all", drawnOver(Drafts.allPicksOnTop(40, 40), 40, all).differences(), 1600);
         Check.same("all and none", drawnOver(Drafts.allEndsOnTop(40, 40), 40, none).differences(), 1600);
         Check.same("all and all", drawnOver(Drafts.allEndsOnTop(40, 40), 40, all).differences(), 0);

@@ -64,7 +64,7 @@ final class ModelTest {
                 due("digest", draft::digest, digest());
             }
             while (calls < CALLS) {
-                ask();
+                due("digest", draft::digest, digest());
             }
         }
 
